@@ -21,7 +21,7 @@ final class PlainStore {
         }
     }
 
-    record Letter(int kind, int sender, int[] clock, Op op) {
+    record Message(int kind, int sender, int[] clock, Op op) {
     }
 
     static final class Replica {
@@ -32,7 +32,7 @@ final class PlainStore {
     }
 
     private final Replica[] replicas = {new Replica(), new Replica(), new Replica(), new Replica()};
-    private final List<List<Letter>> ways = new ArrayList<>();
+    private final List<List<Message>> ways = new ArrayList<>();
 
     PlainStore() {
         for (int i = 0; i < 16; i++) {
@@ -83,23 +83,23 @@ final class PlainStore {
         if (!r.up) {
             return DOWN;
         }
-        Letter letter = ways.get(from * 4 + to).remove(k);
-        if (letter.sender != to) {
+        Message message = ways.get(from * 4 + to).remove(k);
+        if (message.sender != to) {
             for (int j = 0; j < 4; j++) {
-                r.knows[letter.sender][j] = Math.max(r.knows[letter.sender][j], letter.clock[j]);
+                r.knows[message.sender][j] = Math.max(r.knows[message.sender][j], message.clock[j]);
             }
         }
-        if (letter.kind == 2) {
+        if (message.kind == 2) {
             for (Op op : logOf(to)) {
-                if (letter.clock[op.replica] < op.number) {
-                    send(to, from, new Letter(0, op.replica, op.clock, op));
+                if (message.clock[op.replica] < op.number) {
+                    send(to, from, new Message(0, op.replica, op.clock, op));
                 }
             }
-            send(to, from, new Letter(1, to, clockOf(to), null));
+            send(to, from, new Message(1, to, clockOf(to), null));
         }
         int before = r.done.size();
-        if (letter.kind == 0 && !r.done.contains(letter.op) && !r.waits.contains(letter.op)) {
-            r.waits.add(letter.op);
+        if (message.kind == 0 && !r.done.contains(message.op) && !r.waits.contains(message.op)) {
+            r.waits.add(message.op);
             while (doOne(to)) {
                 continue;
             }
@@ -234,13 +234,13 @@ final class PlainStore {
         if (!isIn(k, way(from, to))) {
             return NONE;
         }
-        Letter letter = ways.get(from * 4 + to).get(k);
+        Message message = ways.get(from * 4 + to).get(k);
         return switch (what) {
-            case 0 -> letter.kind;
-            case 1 -> letter.sender;
-            case 2 -> letter.op == null ? 0 : letter.op.number;
-            case 3 -> letter.op == null ? 0 : letter.op.time;
-            default -> letter.clock[what - 4];
+            case 0 -> message.kind;
+            case 1 -> message.sender;
+            case 2 -> message.op == null ? 0 : message.op.number;
+            case 3 -> message.op == null ? 0 : message.op.time;
+            default -> message.clock[what - 4];
         };
     }
 
@@ -265,7 +265,7 @@ final class PlainStore {
         replicas[replica].done.add(op);
         for (int to = 0; to < 4; to++) {
             if (to != replica) {
-                send(replica, to, new Letter(0, replica, clock, op));
+                send(replica, to, new Message(0, replica, clock, op));
             }
         }
         return number;
@@ -281,13 +281,13 @@ final class PlainStore {
         if (way(from, to) == 30) {
             return FULL;
         }
-        send(from, to, new Letter(kind, from, clockOf(from), null));
+        send(from, to, new Message(kind, from, clockOf(from), null));
         return way(from, to);
     }
 
-    private void send(int from, int to, Letter letter) {
+    private void send(int from, int to, Message message) {
         if (way(from, to) < 30) {
-            ways.get(from * 4 + to).add(letter);
+            ways.get(from * 4 + to).add(message);
         }
     }
 

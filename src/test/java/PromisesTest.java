@@ -81,7 +81,8 @@ public final class PromisesTest {
     // 2
     private static void addAnswers() {
         ReplicaStore x = new ReplicaStore();
-        due("first add", x.add(3, 1, 5), 1);
+        x.power(1, false);
+        due("first add, also to one that is down", x.add(3, 1, 5), 1);
         due("second add", x.add(3, 1, -7), 2);
         due("add of another replica", x.add(0, 1, 1), 1);
         due("its counter", x.counter(3, 1), -2);
@@ -189,6 +190,7 @@ public final class PromisesTest {
         x.write(3, 0, 77);
         x.deliver(3, 0, 0);
         due("the greater TIME, not the later one", x.register(0, 0), -3);
+        due("TIME does not lessen", x.count(0, 0), 3);
         due("the other register", x.register(0, 1), 0);
         due("no such register", x.register(0, 2), 0);
         due("no such register", x.register(0, -1), 0);
@@ -333,6 +335,7 @@ public final class PromisesTest {
         due("both", x.deliver(0, 2, 0), 2);
         due("none waits", x.count(2, 2), 0);
         due("all", x.counter(2, 0), 111);
+        due("what is DONE here is not known of 0", x.knows(2, 0, 1), 0);
         due("TIME", x.count(2, 0), 2);
         x.add(2, 0, 1000);
         due("TIME and 1", x.message(2, 0, 1, 3), 3);
@@ -373,8 +376,13 @@ public final class PromisesTest {
         x.copy(0, 1, 0);
         x.copy(0, 1, 1);
         due("the second waits", x.deliver(0, 1, 1), 0);
+        x.power(1, false);
+        x.power(1, true);
         due("the second again", x.deliver(0, 1, 2), 0);
         due("it waits once", x.count(1, 2), 1);
+        x.power(1, false);
+        due("it waits where it is down", x.count(1, 2), 1);
+        x.power(1, true);
         due("both", x.deliver(0, 1, 0), 2);
         due("the first again", x.deliver(0, 1, 0), 0);
         due("none waits", x.count(1, 2), 0);

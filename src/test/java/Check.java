@@ -1,21 +1,27 @@
 /** Counts and prints the answers that are not the ones that are due. */
 final class Check {
     private static int wrong = 0;
+    private static String sentence = "";
 
     private Check() {
+    }
+
+    /** What comes is held against this sentence of the document. */
+    static void sentence(String words) {
+        sentence = words + ": ";
     }
 
     static void due(String call, long got, long want) {
         if (got != want) {
             wrong++;
-            System.out.println(call + " answered " + got + ", due is " + want);
+            System.out.println(sentence + call + " answered " + got + ", due is " + want);
         }
     }
 
     static void holds(String what, boolean holds) {
         if (!holds) {
             wrong++;
-            System.out.println("does not hold: " + what);
+            System.out.println(sentence + "does not hold: " + what);
         }
     }
 

@@ -25,6 +25,17 @@ final class Check {
         }
     }
 
+    /** A TEXT of a replica, character by character, and nothing behind it. */
+    static void dueText(ReplicaStore x, int replica, int text, String want) {
+        StringBuilder got = new StringBuilder();
+        int length = x.length(replica, text);
+        for (int place = 0; place < length; place++) {
+            got.append((char) x.character(replica, text, place));
+        }
+        holds("text " + text + " of " + replica + " is " + want + ", not " + got, want.contentEquals(got));
+        due("behind its end", x.character(replica, text, want.length()), ReplicaStore.NONE);
+    }
+
     static boolean allRight() {
         return wrong == 0;
     }

@@ -11,6 +11,7 @@ public final class PromisesTest {
 
     public static void main(String[] args) {
         newObject();
+        objectsAreApart();
         addAnswers();
         counterIsTheSum();
         putAndTake();
@@ -76,6 +77,34 @@ public final class PromisesTest {
                 due("new knows", x.knows(r, i, 3 - i), 0);
             }
         }
+    }
+
+    // 1: a new object has nothing of another one, nor takes anything from it
+    private static void objectsAreApart() {
+        ReplicaStore x = new ReplicaStore();
+        x.add(0, 1, 4);
+        x.put(0, 0, 4);
+        x.write(0, 0, 4);
+        x.insert(0, 0, 0, 4);
+        x.power(3, false);
+        ReplicaStore y = new ReplicaStore();
+        y.write(0, 0, 5);
+        for (int to = 1; to < 4; to++) {
+            due("way of one", x.way(0, to), 4);
+            due("way of the other one", y.way(0, to), 1);
+        }
+        due("counter of one", x.counter(0, 1), 4);
+        due("counter of the other one", y.counter(0, 1), 0);
+        due("size of one", x.size(0, 0), 1);
+        due("size of the other one", y.size(0, 0), 0);
+        due("register of one", x.register(0, 0), 4);
+        due("register of the other one", y.register(0, 0), 5);
+        due("length of one", x.length(0, 0), 1);
+        due("length of the other one", y.length(0, 0), 0);
+        due("down in one", x.count(3, 3), 0);
+        due("up in the other one", y.count(3, 3), 1);
+        due("clock of one", x.clock(0, 0), 4);
+        due("clock of the other one", y.clock(0, 0), 1);
     }
 
     // 2
@@ -198,15 +227,6 @@ public final class PromisesTest {
         due("no such replica", x.register(-1, 0), 0);
     }
 
-    private static void dueText(String what, ReplicaStore x, int replica, int text, String want) {
-        StringBuilder got = new StringBuilder();
-        for (int place = 0; place < x.length(replica, text); place++) {
-            got.append((char) x.character(replica, text, place));
-        }
-        Check.holds(what + ": " + got + " is " + want, want.contentEquals(got));
-        due(what + ", behind its end", x.character(replica, text, want.length()), NONE);
-    }
-
     // 6, 18, 19
     private static void insertOrder() {
         ReplicaStore x = new ReplicaStore();
@@ -217,8 +237,8 @@ public final class PromisesTest {
         due("insert", x.insert(0, 0, 0, 1), 4);
         due("insert", x.insert(0, 0, 4, 127), 5);
         due("place behind the end", x.insert(0, 0, 6, 'x'), BAD);
-        dueText("one replica", x, 0, 0, "\u0001abc\u007f");
-        dueText("the other text", x, 0, 1, "");
+        Check.dueText(x, 0, 0, "\u0001abc\u007f");
+        Check.dueText(x, 0, 1, "");
         due("length", x.length(0, 0), 5);
         due("character -1", x.character(0, 0, -1), NONE);
         due("character 5", x.character(0, 0, 5), NONE);
@@ -233,11 +253,11 @@ public final class PromisesTest {
         x.remove(0, 1, 0);
         x.insert(1, 1, 1, 'x');
         due("the character behind one that is gone", x.deliver(1, 0, 0), 1);
-        dueText("it stays where it is", x, 0, 1, "xb");
+        Check.dueText(x, 0, 1, "xb");
         due("the remove", x.deliver(0, 1, 0), 1);
-        dueText("the same at the other", x, 1, 1, "xb");
+        Check.dueText(x, 1, 1, "xb");
         due("place 1 is behind x", x.insert(0, 1, 1, 'y'), 4);
-        dueText("gone ones do not count as places", x, 0, 1, "xyb");
+        Check.dueText(x, 0, 1, "xyb");
         due("also those taken away", x.count(0, 4), 4);
     }
 
@@ -254,12 +274,12 @@ public final class PromisesTest {
                     x.deliver(from, to, k);
                 }
             }
-            dueText("at " + to, x, to, 0, "pqrabcZ");
+            Check.dueText(x, to, 0, "pqrabcZ");
         }
         x.insert(3, 0, 7, '!');
         x.insert(3, 0, 0, '?');
         x.insert(3, 0, 4, '-');
-        dueText("behind r is the subtree's end", x, 3, 0, "?pqr-abcZ!");
+        Check.dueText(x, 3, 0, "?pqr-abcZ!");
     }
 
     // 7
@@ -273,14 +293,14 @@ public final class PromisesTest {
         due("place before the beginning", x.remove(1, 0, -1), BAD);
         due("the other text", x.remove(1, 1, 0), BAD);
         due("remove", x.remove(1, 0, 1), 4);
-        dueText("without b", x, 1, 0, "ac");
+        Check.dueText(x, 1, 0, "ac");
         due("remove the last", x.remove(1, 0, 1), 5);
         due("gone", x.remove(1, 0, 1), BAD);
         due("remove the first", x.remove(1, 0, 0), 6);
         due("length", x.length(1, 0), 0);
         due("all were there", x.count(1, 4), 3);
         due("at the beginning", x.insert(1, 0, 0, 'd'), 7);
-        dueText("alone", x, 1, 0, "d");
+        Check.dueText(x, 1, 0, "d");
     }
 
     private static void removeOfOneByTwo() {
@@ -293,8 +313,8 @@ public final class PromisesTest {
         x.remove(1, 0, 0);
         due("the other's remove", x.deliver(1, 0, 0), 1);
         due("the other's remove", x.deliver(0, 1, 0), 1);
-        dueText("one was taken away", x, 0, 0, "b");
-        dueText("one was taken away", x, 1, 0, "b");
+        Check.dueText(x, 0, 0, "b");
+        Check.dueText(x, 1, 0, "b");
     }
 
     // 8

@@ -58,24 +58,6 @@ public final class TermsBoundariesTest {
         Check.due(call, got, want);
     }
 
-    private static void dueText(ReplicaStore x, int replica, int text, String want) {
-        StringBuilder got = new StringBuilder();
-        int length = x.length(replica, text);
-        for (int place = 0; place < length; place++) {
-            got.append((char) x.character(replica, text, place));
-        }
-        Check.holds("text " + text + " of " + replica + " is " + want + ", not " + got, want.contentEquals(got));
-    }
-
-    /** All messages that are on the WAYS to a replica come, the last one of each WAY first if so wanted. */
-    private static void allCome(ReplicaStore x, int to, boolean lastFirst) {
-        for (int from = 0; from < 4; from++) {
-            for (int left = x.way(from, to); left > 0; left--) {
-                x.deliver(from, to, lastFirst ? left - 1 : 0);
-            }
-        }
-    }
-
     // 240 OPERATIONS, 264 messages that come: the 512 calls of an object.
     private static void callsUpTo512() {
         Check.sentence("An object is used for at most 512 calls");
@@ -212,7 +194,7 @@ public final class TermsBoundariesTest {
         x.add(2, 0, MOST);
         x.add(3, 0, 7);
         for (int r = 0; r < 4; r++) {
-            allCome(x, r, r % 2 == 0);
+            Moves.allCome(x, r, r % 2 == 0);
             due("counter of " + r, x.counter(r, 0), LEAST + 4);
         }
     }
@@ -281,7 +263,7 @@ public final class TermsBoundariesTest {
             x.write(r, 1, 10 - r);
         }
         for (int r = 0; r < 4; r++) {
-            allCome(x, r, false);
+            Moves.allCome(x, r, false);
             due("at " + r, x.register(r, 1), 7);
             due("the other REGISTER", x.register(r, 0), 0);
         }
@@ -299,14 +281,14 @@ public final class TermsBoundariesTest {
         }
         x.remove(0, 0, 1);
         x.remove(0, 0, 0);
-        dueText(x, 0, 0, "");
+        Check.dueText(x, 0, 0, "");
         x.insert(1, 0, 1, 'x');
         x.insert(1, 0, 3, 'y');
         due("behind a, which is gone", x.deliver(1, 0, 0), 1);
         due("behind b, which is gone", x.deliver(1, 0, 0), 1);
-        dueText(x, 0, 0, "xy");
-        allCome(x, 1, true);
-        dueText(x, 1, 0, "xy");
+        Check.dueText(x, 0, 0, "xy");
+        Moves.allCome(x, 1, true);
+        Check.dueText(x, 1, 0, "xy");
         due("those taken away count", x.count(1, 4), 4);
     }
 
@@ -318,11 +300,11 @@ public final class TermsBoundariesTest {
         x.insert(0, 1, 1, 'b');
         x.insert(0, 1, 2, 'c');
         x.remove(0, 1, 0);
-        dueText(x, 0, 1, "bcz");
+        Check.dueText(x, 0, 1, "bcz");
         x.insert(0, 1, 0, 'q');
-        dueText(x, 0, 1, "qbcz");
-        allCome(x, 3, true);
-        dueText(x, 3, 1, "qbcz");
+        Check.dueText(x, 0, 1, "qbcz");
+        Moves.allCome(x, 3, true);
+        Check.dueText(x, 3, 1, "qbcz");
     }
 
     private static void removeOfOneTakenAway() {
@@ -330,11 +312,11 @@ public final class TermsBoundariesTest {
         ReplicaStore x = new ReplicaStore();
         x.insert(0, 0, 0, 'a');
         x.insert(0, 0, 1, 'b');
-        allCome(x, 1, false);
+        Moves.allCome(x, 1, false);
         x.remove(0, 0, 0);
         due("its own", x.remove(1, 0, 0), 1);
         due("it comes and is DONE", x.deliver(0, 1, 0), 1);
-        dueText(x, 1, 0, "b");
+        Check.dueText(x, 1, 0, "b");
         due("both count", x.count(1, 4), 2);
     }
 
@@ -345,8 +327,8 @@ public final class TermsBoundariesTest {
         x.insert(0, 0, 0, 'a');
         x.insert(0, 0, 0, 'b');
         for (int r = 0; r < 4; r++) {
-            allCome(x, r, r == 2);
-            dueText(x, r, 0, "bca");
+            Moves.allCome(x, r, r == 2);
+            Check.dueText(x, r, 0, "bca");
         }
     }
 
@@ -357,8 +339,8 @@ public final class TermsBoundariesTest {
             x.insert(r, 0, 0, 'a' + r);
         }
         for (int r = 0; r < 4; r++) {
-            allCome(x, r, true);
-            dueText(x, r, 0, "dcba");
+            Moves.allCome(x, r, true);
+            Check.dueText(x, r, 0, "dcba");
         }
     }
 
@@ -375,8 +357,8 @@ public final class TermsBoundariesTest {
         }
         x.insert(1, 0, 0, '!');
         for (int r = 0; r < 4; r++) {
-            allCome(x, r, r > 1);
-            dueText(x, r, 0, "!mdDcCbBaA");
+            Moves.allCome(x, r, r > 1);
+            Check.dueText(x, r, 0, "!mdDcCbBaA");
         }
     }
 
@@ -503,7 +485,7 @@ public final class TermsBoundariesTest {
                 x.add(r, 0, 1);
             }
         }
-        allCome(x, 1, false);
+        Moves.allCome(x, 1, false);
         x.tell(1, 3);
         x.deliver(1, 3, x.way(1, 3) - 1);
         for (int j = 0; j < 4; j++) {

@@ -28,6 +28,7 @@ public final class PromisesTest {
         deliverOldestReadyFirst();
         deliverTwice();
         copyAnswers();
+        copyIsTheSameMessage();
         loseAnswers();
         askAnswers();
         answerToAQuestion();
@@ -47,6 +48,7 @@ public final class PromisesTest {
         wrongChanges();
         wrongLooks();
         wrongMoves();
+        runOfTheReadme();
         Check.end();
     }
 
@@ -220,6 +222,10 @@ public final class PromisesTest {
         x.deliver(3, 0, 0);
         due("the greater TIME, not the later one", x.register(0, 0), -3);
         due("TIME does not lessen", x.count(0, 0), 3);
+        x.write(0, 0, 0);
+        x.write(2, 0, 88);
+        x.deliver(2, 0, 0);
+        due("what was written may be 0", x.register(0, 0), 0);
         due("the other register", x.register(0, 1), 0);
         due("no such register", x.register(0, 2), 0);
         due("no such register", x.register(0, -1), 0);
@@ -432,6 +438,28 @@ public final class PromisesTest {
         due("thirty", x.way(2, 3), 30);
         x.lose(2, 3, 29);
         due("room again", x.copy(2, 3, 1), 30);
+    }
+
+    // What was sent stays as it was sent, though its sender has DONE more since.
+    private static void copyIsTheSameMessage() {
+        ReplicaStore x = new ReplicaStore();
+        x.add(1, 0, 1);
+        x.tell(1, 0);
+        x.ask(1, 0);
+        x.add(1, 0, 1);
+        for (int k = 0; k < 3; k++) {
+            due("copy", x.copy(1, 0, k), 5 + k);
+        }
+        for (int k = 0; k < 3; k++) {
+            for (int what = 0; what < 8; what++) {
+                due("copy of " + k + ", " + what, x.message(1, 0, 4 + k, what), x.message(1, 0, k, what));
+            }
+        }
+        due("its QUESTION's CLOCK", x.message(1, 0, 6, 5), 1);
+        due("the copy of the QUESTION comes", x.deliver(1, 0, 6), 0);
+        due("it is answered", x.way(0, 1), 1);
+        due("the QUESTION comes", x.deliver(1, 0, 2), 0);
+        due("it is answered, too", x.way(0, 1), 2);
     }
 
     // 10
@@ -876,5 +904,18 @@ public final class PromisesTest {
             due("to itself", x.deliver(r, r, 0), BAD);
             due("nothing was lost", x.way(r, 3 - r), 1);
         }
+    }
+
+    private static void runOfTheReadme() {
+        ReplicaStore store = new ReplicaStore();
+        due("insert", store.insert(0, 0, 0, 'a'), 1);
+        due("way", store.way(0, 1), 1);
+        due("deliver", store.deliver(0, 1, 0), 1);
+        due("character", store.character(1, 0, 0), 'a');
+        due("lose", store.lose(0, 2, 0), 0);
+        due("ask", store.ask(2, 1), 1);
+        due("the question comes", store.deliver(2, 1, 0), 0);
+        due("the answer comes", store.deliver(1, 2, 0), 1);
+        Check.dueText(store, 2, 0, "a");
     }
 }
